@@ -488,21 +488,18 @@ public final class DocumentaryCreditDesk {
         }
 
         Book withPresentation(Presentation added) {
-            return withPresentations(presentations.length + 1, presentations.length, added);
+            Presentation[] longer = new Presentation[presentations.length + 1];
+            for (int i = 0; i < presentations.length; i++) {
+                longer[i] = presentations[i];
+            }
+            longer[presentations.length] = added;
+            return new Book(today, calendar, feeRule, credits, longer);
         }
 
         Book withPresentationAt(int index, Presentation changed) {
-            return withPresentations(presentations.length, index, changed);
-        }
-
-        private Book withPresentations(int count, int index, Presentation put) {
-            Presentation[] copy = new Presentation[Math.max(count, 0)];
-            for (int i = 0; i < copy.length; i++) {
-                if (i == index) {
-                    copy[i] = put;
-                } else if (i < presentations.length) {
-                    copy[i] = presentations[i];
-                }
+            Presentation[] copy = new Presentation[presentations.length];
+            for (int i = 0; i < presentations.length; i++) {
+                copy[i] = i == index ? changed : presentations[i];
             }
             return new Book(today, calendar, feeRule, credits, copy);
         }
@@ -768,7 +765,8 @@ public final class DocumentaryCreditDesk {
 
     /**
      * Reads a setup text from left to right, so the first error it meets is the one with the
-     * smallest offset. After an error it sees the end of the text and nothing more.
+     * smallest offset. An error makes the current token the end of the text: no rule goes on from
+     * there, and the methods return one after the other.
      */
     private static final class SetupReader {
         static final int NO_ERROR = 0;
@@ -1007,9 +1005,6 @@ public final class DocumentaryCreditDesk {
         }
 
         private void nextToken() {
-            if (error != NO_ERROR) {
-                return;
-            }
             start = end;
             while (start < text.length && kindAt(start) == ' ') {
                 start++;
@@ -1064,8 +1059,12 @@ public final class DocumentaryCreditDesk {
             this.room = room;
             presentations = new int[MOST_FITTED];
             amounts = new int[MOST_FITTED];
+            count = 0;
+            bestSum = 0;
+            best = 0;
         }
 
+        /** Candidates come in the order of their indexes; those beyond the first 12 are ignored. */
         void addCandidate(int presentation, int amount) {
             if (count >= 0 && count < amounts.length && count < presentations.length) {
                 presentations[count] = presentation;
@@ -1075,8 +1074,6 @@ public final class DocumentaryCreditDesk {
         }
 
         int bestSet() {
-            best = 0;
-            bestSum = 0;
             tryAll(count, 0, 0);
             return best;
         }

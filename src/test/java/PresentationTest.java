@@ -15,6 +15,7 @@ public final class PresentationTest {
         missingDocuments();
         insurance();
         shipmentInTheFuture();
+        severalDiscrepancies();
         checkLooksAtItsArguments();
         presentMakesAPresentation();
         presentLooksAtItsArguments();
@@ -118,6 +119,17 @@ public final class PresentationTest {
         desk.present(0, 9, 1, 0, 0);
         desk.pass(5);
         checks.due("judged on the day it is made", desk.discrepancies(0), 64);
+    }
+
+    private static void severalDiscrepancies() {
+        DocumentaryCreditDesk desk = Checks.deskWith("credit 100 0 0 9 9 9 0 needs 7;");
+        desk.pass(20);
+        desk.present(0, 21, 50, 0, 0);
+        checks.due("all but overdrawn", desk.discrepancies(0), 127 - 4);
+        checks.due("all", desk.check(0, 21, 51, 0, 0), 127);
+        checks.due("all but the documents'", desk.check(0, 21, 51, 128, 56), 127 - 16 - 32);
+        checks.due("all but shipment's", desk.check(0, 9, 51, 0, 0), 127 - 1 - 64);
+        checks.due("one that the first makes partial", desk.check(0, 9, 50, 128, 55), 2 + 8);
     }
 
     private static void checkLooksAtItsArguments() {

@@ -191,6 +191,10 @@ public final class SetupTest {
         bad("holiday;", SYNTAX, 7);
         bad("holiday ,1;", SYNTAX, 8);
         bad("holidays 1;", SYNTAX, 0);
+        bad("holidayz 1;", SYNTAX, 0);
+        bad("holidaya 1;", SYNTAX, 0);
+        bad("xoliday 1;", SYNTAX, 0);
+        bad("holidax 1;", SYNTAX, 0);
         bad("holiday 1,2;", SYNTAX, 9);
         bad("holiday 1 x;", SYNTAX, 10);
         bad("holiday 1000;", RANGE, 8);
