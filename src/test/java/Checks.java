@@ -24,6 +24,18 @@ final class Checks {
         due(what, got ? 1 : 0, want ? 1 : 0);
     }
 
+    void due(String what, String got, String want) {
+        made++;
+        if (!got.equals(want)) {
+            wrong++;
+            System.out.println(name + ": " + what + " is '" + got + "', due is '" + want + "'");
+        }
+    }
+
+    int made() {
+        return made;
+    }
+
     /** The call must throw exactly this class. */
     void dueThrow(String what, Class<? extends RuntimeException> want, LongSupplier call) {
         made++;
