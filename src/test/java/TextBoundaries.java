@@ -473,6 +473,28 @@ final class TextBoundaries {
         bad("fe;", SYNTAX, 0);
         bad("fees 1;", SYNTAX, 0);
         bad("fee \u00e4;", SYNTAX, 4);
+        otherWords("", "holiday", " 1;");
+        otherWords("", "credit", " 1 0 0 0 0 1 0;");
+        otherWords("", "fee", " 1;");
+        otherWords(SEVEN_NUMBERS + " ", "partial", ";");
+        otherWords(SEVEN_NUMBERS + " ", "transferable", ";");
+        otherWords(SEVEN_NUMBERS + " ", "needs", " 1;");
+        otherWords("fee ", "amount", ";");
+        otherWords("fee ", "days", ";");
+        otherWords("fee ", "errors", ";");
+    }
+
+    /** Every word that is one letter away from the right one. */
+    private void otherWords(String before, String word, String behind) {
+        on.due(word, Checks.load(Desks.empty(), before + word + behind) >= 0, true);
+        for (int i = 0; i < word.length(); i++) {
+            String head = word.substring(0, i);
+            String tail = word.substring(i + 1);
+            bad(before + head + "q" + tail + behind, SYNTAX, before.length());
+            bad(before + head + tail + behind, SYNTAX, before.length());
+            bad(before + head + word.charAt(i) + word.substring(i) + behind, SYNTAX,
+                    before.length());
+        }
     }
 
     private void longRuns() {
@@ -593,6 +615,18 @@ final class TextBoundaries {
         good("fee 1+(2+(3+(4+(5+6)*7)*8)*9);", 0);
         bad("fee 1+(2+(3+(4+(5+(6)))));", DEEP, 18);
         good("fee ((((1)+2)+3)+4);", 0);
+        // A sum and a product wait at each depth.
+        String deep = "1+2*(3+4*(5+6*(7+8*(9+2*3))))";
+        int value = 1 + 2 * (3 + 4 * (5 + 6 * (7 + 8 * (9 + 2 * 3))));
+        feeIs(deep, value);
+        feeIs(deep + "+2*(" + "1+".repeat(99) + "1)", value + 200);
+        feeIs("((((1+2)*3+4)*5+6)*7+8)*9+10", ((((1 + 2) * 3 + 4) * 5 + 6) * 7 + 8) * 9 + 10);
+    }
+
+    private void feeIs(String expression, int value) {
+        DocumentaryCreditDesk desk = Desks.with("fee " + expression + ";" + Desks.PARTIAL);
+        desk.present(0, 0, 1, 0, 0);
+        on.due("fee " + expression, desk.fee(0), value);
     }
 
     private void oneFee() {
