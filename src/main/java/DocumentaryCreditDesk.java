@@ -362,7 +362,9 @@ public final class DocumentaryCreditDesk {
         needRange(shipped, 0, MOST_DAY_ASKED);
         needRange(amount, 1, MOST_PRESENTED);
         needRange(documents, 0, ALL_DOCUMENTS);
-        needRange(insured, 0, Integer.MAX_VALUE);
+        if (insured < 0) {
+            throw new IllegalArgumentException("the insured sum is negative");
+        }
     }
 
     private int discrepanciesToday(Credit credit, int shipped, int amount, int documents,

@@ -29,6 +29,12 @@ public final class LanguageTest {
         {"6", "extends \\w*Exception"}, {"9", "while \\(true\\)"}, {"9", "for \\(;;\\)"},
         {"9", "\\bdo \\{"}, {"10", "\"\" \\+|\\+ \"\""}, {"13", "Random|Thread|nanoTime|Scanner|Path"}};
 
+    // Rule 4 names functions alone: a field of these classes, Integer.MAX_VALUE too, is not listed.
+    private static final Pattern LIBRARY = Pattern.compile(
+            "\\b(Integer|Long|Math|Arrays|System|List|Character|Byte|Short)\\.\\w+\\(?");
+    private static final Set<String> FUNCTIONS = Set.of("Integer.bitCount(", "Math.min(", "Math.max(",
+            "Arrays.copyOf(", "Arrays.copyOfRange(", "Arrays.fill(", "System.arraycopy(");
+
     private static final Pattern THROW = Pattern.compile("\\bthrow\\b[^;]*;");
     private static final Pattern ALLOWED_THROW = Pattern.compile(
             "throw new (IllegalStateException|IllegalArgumentException|IndexOutOfBoundsException)"
@@ -41,6 +47,7 @@ public final class LanguageTest {
         checks.due("signs above 126", text.chars().filter(sign -> sign > 126).count(), 0);
         forbidden(code);
         imports(code);
+        library(code);
         exceptions(code);
         lengthOfMethods(code);
         roomOfRuns();
@@ -64,6 +71,18 @@ public final class LanguageTest {
         while (line.find()) {
             checks.due("rule 4, import " + line.group(1), IMPORTS.contains(line.group(1)), true);
         }
+    }
+
+    private static void library(String code) {
+        String used = code.replaceAll("(?m)^import .*$", "");
+        Matcher found = LIBRARY.matcher(used);
+        int uses = 0;
+        while (found.find()) {
+            uses++;
+            checks.due("rule 4, " + found.group() + " is listed",
+                    FUNCTIONS.contains(found.group()), true);
+        }
+        checks.due("uses of the library found", uses > 5, true);
     }
 
     private static void exceptions(String code) {
